@@ -6,6 +6,7 @@ public final class EightLegs {
     private static final int MOST_SWIMMERS = 8, MOST_COUNTS = 60, MOST_BYTES = 120;
     private static final int MOST_TO_CHANGE = 16, MOST_CHANGED = 10, MOST_IN_LINE = 6;
     private static final int NOT_QUICKER = -99;
+    private static final long NO_ELEMENT = -9223372036854775808L;
 
     private final Pool pool = new Pool();
     private final Changes changes = new Changes(pool);
@@ -378,7 +379,7 @@ public final class EightLegs {
 
     public long element(int shelf, int i) {
         if (!Shelves.isShelf(shelf) || shelves.rowRefusal(shelf) != 0) {
-            return Long.MIN_VALUE;
+            return NO_ELEMENT;
         }
         return shelves.elementAt(shelf, i);
     }
@@ -517,7 +518,7 @@ public final class EightLegs {
             if (what < 0 || what >= WHATS) {
                 return false;
             }
-            return what >= LEADER ? number == 0 : has(number);
+            return number >= 0 && number < (what >= LEADER ? 1 : many);
         }
 
         int told(int number, int what) {
@@ -1452,8 +1453,10 @@ public final class EightLegs {
                 }
             }
             swap(rise, above);
-            for (int left = rise + 1, right = n - 1; left < right; left++, right--) {
+            int right = n - 1;
+            for (int left = rise + 1; left < right; left++) {
                 swap(left, right);
+                right--;
             }
             return true;
         }
@@ -1710,16 +1713,16 @@ public final class EightLegs {
                 int above = plainTurns(x);
                 return above + sinks(2);
             }
+            int given = x;
             if (is(SMILE)) {
                 begins(41);
-                return breathTurns(x + 1);
+                given++;
             }
-            return is(BREATH) ? breathTurns(x) : plainTurns(x);
-        }
-
-        private int breathTurns(int x) {
-            begins(30);
-            return -plainTurns(x);
+            if (is(BREATH)) {
+                begins(30);
+                return -plainTurns(given);
+            }
+            return plainTurns(given);
         }
 
         private int plainTurns(int x) {
@@ -1871,7 +1874,7 @@ public final class EightLegs {
         }
 
         long elementAt(int shelf, int i) {
-            return isPlace(shelf, i) ? rows[shelf][i] : Long.MIN_VALUE;
+            return isPlace(shelf, i) ? rows[shelf][i] : NO_ELEMENT;
         }
 
         boolean move(int shelf, int i, int other, int j, int n) {

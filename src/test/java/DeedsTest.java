@@ -14,6 +14,7 @@ public final class DeedsTest {
         undo();
         redo();
         fortyChanges();
+        fortyUnlikeChanges();
         undoAcrossAll();
         c.end();
     }
@@ -225,6 +226,26 @@ public final class DeedsTest {
         x.undo();
         c.due("31 BREATH", x.of(0, 3), 12);
         c.due("31 LATE is still 41", x.of(0, 5), 41);
+    }
+
+    /** Those kept are kept whole when the oldest are forgotten. */
+    private static void fortyUnlikeChanges() {
+        EightLegs x = Check.pool(4);
+        int[] numbers = new int[45];
+        int[] whats = new int[45];
+        for (int i = 0; i < 45; i++) {
+            numbers[i] = i * 3 % 4;
+            whats[i] = i % 2 == 0 ? 5 : 0;
+            x.mend(numbers[i], whats[i], i % 15 + 1);
+        }
+        for (int left = 39; left >= 0; left--) {
+            c.due("31 as told", x.of(numbers[left + 5], whats[left + 5]), (left + 5) % 15 + 1);
+            c.due("31 left", x.undo(), left);
+        }
+        for (int i = 5; i < 45; i++) {
+            c.due("32 left", x.redo(), 44 - i);
+            c.due("32 as told", x.of(numbers[i], whats[i]), i % 15 + 1);
+        }
     }
 
     /** Each number that mend() tells, of two swimmers. */

@@ -131,6 +131,17 @@ public final class GroundTest {
         c.due("21 wider", x.star(0), 9);
         x.swimmer(1500, 5);
         c.due("21 all", x.star(0), 16);
+        for (int extreme = 0; extreme < 4; extreme++) {
+            EightLegs y = new EightLegs();
+            for (int one = 0; one < 4; one++) {
+                y.swimmer(one == extreme ? 307 : 707, 5);
+            }
+            c.due("21 one of them below", y.star(0), 5);
+            y.mend(extreme, 1, 9);
+            c.due("21 one of them above", y.star(0), 3);
+            y.mend(extreme, 0, 0);
+            c.due("21 one of them beside", y.star(0), 8);
+        }
         int[] whats = {-1, 3, Check.LOW, Check.HIGH};
         for (int what : whats) {
             c.due("21 what " + what, x.star(what), Check.BAD);

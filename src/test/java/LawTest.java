@@ -118,6 +118,13 @@ public final class LawTest {
         c.due("8 by SEEN", x.loses(1, 9999, 0), 10);
         x.mend(0, 7, 1);
         c.due("8 by SEEN 1", x.loses(1, 7, 0), 7);
+        EightLegs y = Check.pool(8);
+        y.mend(7, 2, 9);
+        y.mend(6, 2, 3);
+        Check.law(y, "t");
+        c.due("8 the last two", y.loses(76, 0, 0), 6);
+        c.due("8 the other way round", y.loses(67, 0, 459), 6);
+        c.due("8 0 and the last", y.loses(7, 0, 0), 4);
     }
 
     private static void losesWrong() {
@@ -166,8 +173,8 @@ public final class LawTest {
 
     private static void lines() {
         String[] texts = {"o>100?9;e=2?8;7", "o>10?9;e=2?8;7", "0?9;0?8", "0?9;5;0?7;8", "0;5", "5?0;6", "-1?4", "o-40?3;4", "o-39?3;4",
-            "0?1;0?2;0?3;1?4;1?5", "1?(o?3)", "o?d;t", "0*(1/0)|0?4;11"};
-        int[] dues = {8, 9, 0, 5, 0, 0, 4, 4, 3, 4, -1, 7, 11};
+            "0?1;0?2;0?3;1?4;1?5", "1?(o?3)", "o?d;t", "0*(1/0)|0?4;11", "1?0|3", "0|2?6", "1?((((((7))))))", "((((((1))))))?8;9"};
+        int[] dues = {8, 9, 0, 5, 0, 0, 4, 4, 3, 4, -1, 7, 11, 1, 6, 7, 8};
         EightLegs x = new EightLegs();
         x.swimmer(203, 9);
         x.swimmer(701, 5);

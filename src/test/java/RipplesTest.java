@@ -38,10 +38,17 @@ public final class RipplesTest {
         c.due("22 shorts", x.judge(2), Check.NOT);
         Check.lay(x, 2, 1, -7);
         c.due("22 never below 0", x.judge(2), 0);
-        x.shift(0, 0, 0, 0, 4);
-        x.row(5, 0, 4);
-        Check.lay(x, 4, 1, 7, 10, 13, 16);
-        c.due("22 shelves 5 and 4", x.judge(54), Check.NOT);
+        for (int routine = 0; routine <= 5; routine++) {
+            for (int ripples = 0; ripples <= 5; ripples++) {
+                if (routine != ripples) {
+                    EightLegs y = Check.pool(2);
+                    y.mend(1, 4, 2);
+                    y.row(routine, 0, 4);
+                    Check.lay(y, ripples, 1, 2, 4, 7);
+                    c.due("22 shelves " + routine + ", " + ripples, y.judge(10 * routine + ripples), 2);
+                }
+            }
+        }
         EightLegs one = Check.pool(1);
         one.mend(0, 4, 9);
         Check.routine(one, "00");
@@ -109,6 +116,13 @@ public final class RipplesTest {
         x.put(1, 1, 0);
         c.due("23 any", x.whoLed(1), 7);
         c.due("23 LEADER stays", x.of(0, 6), 7);
+        EightLegs y = Check.pool(2);
+        y.mend(0, 6, 5);
+        y.mend(0, 4, 3);
+        Check.routine(y, "40");
+        Check.lay(y, 1, 1, 0, 3);
+        c.due("22 nobody's count", y.judge(1), 0);
+        c.due("23 either's", y.whoLed(1), 3);
         EightLegs none = new EightLegs();
         Check.routine(none, "0");
         none.row(1, 1, 0);

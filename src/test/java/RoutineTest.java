@@ -53,6 +53,11 @@ public final class RoutineTest {
         c.due("9 never", x.routine(0, 2), Check.NOT);
         c.due("9 none lose any", x.routine(0, 3), Check.NOT);
         c.due("9 none", x.routine(0, 1), 0);
+        Check.routine(x, "0000");
+        c.due("9 no mark", x.routine(0, 1), 0);
+        x.mend(0, 7, 72);
+        c.due("9 one mark", x.routine(0, 1), 1);
+        c.due("9 the two that lose it", x.routine(0, 3), 12);
         EightLegs y = Check.pool(2);
         y.mend(0, 5, 99);
         Check.routine(y, "");
@@ -60,6 +65,16 @@ public final class RoutineTest {
         Check.routine(y, "2");
         c.due("9 LATE alone: 99 by 25, twice", y.routine(0, 1), 6);
         c.due("9 at once", y.routine(0, 2), 0);
+        EightLegs z = Check.pool(3);
+        z.mend(0, 5, 10);
+        z.mend(1, 4, 4);
+        z.mend(2, 5, 6);
+        z.mend(0, 7, 1);
+        // of 0 and 1 14 + 18 + 10 + 14, of 0 and 2 4 each, of 1 and 2 10 + 14 + 6 + 10
+        Check.routine(z, "0041");
+        c.due("9 the two that lose most in all", z.routine(0, 3), 1);
+        Check.law(z, "k<1?t;(3-k)*o");
+        c.due("9 not behind the last count alone", z.routine(0, 3), 1);
     }
 
     private static void routineEnds() {
@@ -376,6 +391,25 @@ public final class RoutineTest {
         x.mend(0, 4, -9);
         Check.routine(x, "00");
         c.due("15 ahead of all counts nothing is seen", x.looks(0, -1), 0);
+        EightLegs y = Check.pool(2);
+        y.mend(0, 4, 2);
+        y.mend(0, 7, 32);
+        y.mend(0, 3, 1);
+        Check.routine(y, "0000000000000000");
+        c.due("15 apart by 32 behind the last of 16", y.looks(0, -1), 1);
+        c.due("15 any look will do", y.looks(0, 0), 0);
+        y.mend(0, 7, 33);
+        c.due("15 apart by 32 is less than 33", y.looks(0, -1), 0);
+        Check.routine(y, "0110");
+        c.due("14 gasps behind looks", y.gasps(0, -1), 1);
+        c.due("14 gasps behind looks", y.gasps(0, 0), 1);
+        c.due("15 looks behind gasps", y.looks(0, -1), 0);
+        Check.routine(y, "111");
+        c.due("14 a shorter one behind it", y.gasps(0, -1), 1);
+        c.due("14 a shorter one behind it", y.gasps(0, 0), 1);
+        Check.routine(y, "110");
+        c.due("14 a shorter one that ends above", y.gasps(0, -1), 1);
+        c.due("14 of like ones the first", y.gasps(0, 0), 0);
     }
 
     private static void looksTenAtMost() {
@@ -424,6 +458,13 @@ public final class RoutineTest {
         Check.routine(y, "4");
         c.due("16 all alike", y.whose(0, 0), 0);
         c.due("16 none lost", y.whose(0, 1), 0);
+        y.mend(0, 4, 1);
+        Check.routine(y, "04");
+        y.mend(0, 6, 7);
+        c.due("9 nobody's count", y.routine(0, 1), 3);
+        c.due("16 anybody's is better", y.whose(0, 1), 1);
+        c.due("16 of like ones the least", y.whose(0, 0), 0);
+        c.due("16 LEADER stays", y.of(0, 6), 7);
         c.due("16 nobody", empty().whose(0, 0), Check.NOT);
         c.due("16 nobody", empty().whose(0, 1), Check.NOT);
     }
@@ -479,6 +520,18 @@ public final class RoutineTest {
         c.due("18 behind the look it comes behind it", x.slip(0, 101, 7), 21);
         c.due("18 the leader's, behind the look", x.slip(0, 1, 7), 21);
         c.due("18 it is no change of hers", x.routine(0, 1), 0);
+        EightLegs y = Check.pool(3);
+        y.mend(0, 7, 1);
+        y.mend(0, 4, 1);
+        y.mend(1, 5, 20);
+        Check.routine(y, "000");
+        // OFF of 0 is 1, 2, 3, of 1 -20, of 2 0: twice 21 + 22 + 23
+        c.due("9 as it is", y.routine(0, 1), 132);
+        c.due("18 of 0: 21 + 27 + 28, twice", y.slip(0, 1, 5), 42 + 54 + 56);
+        c.due("18 of 1: 42, twice 17 + 18", y.slip(0, 101, 5), 42 + 34 + 36);
+        c.due("18 of 2: 42, twice 25", y.slip(0, 201, 5), 42 + 50 + 50);
+        c.due("18 of 0 as the first", y.slip(0, 0, -1), 40 + 42 + 44);
+        c.due("18 of 1 as the first", y.slip(0, 100, -1), 44 + 46 + 48);
     }
 
     private static void slipWrong() {

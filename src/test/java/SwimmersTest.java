@@ -122,6 +122,13 @@ public final class SwimmersTest {
         c.due("3 beyond its end", x.swimmers(0, 8, 1), 0);
         c.due("3 far beyond its end", x.swimmers(0, Check.HIGH, 8), 0);
         c.due("3 from place 3 on, the whole four", x.swimmers(0, 3, 1), 1);
+        EightLegs full = new EightLegs();
+        full.row(1, 0, 60);
+        full.put(1, 56, 3);
+        full.put(1, 58, 4);
+        c.due("3 the last four of a row of 60", full.swimmers(1, 56, 8), 1);
+        c.due("3 her X", full.of(0, 0), 3);
+        c.due("3 within the last four", full.swimmers(1, 57, 8), 0);
         long[][] wrong = {{16, 0, 1, 0}, {-1, 0, 1, 0}, {0, 16, 1, 0}, {0, -1, 1, 0}, {0, 0, 0, 0}, {0, 0, 10, 0}, {0, 0, 1, 10}, {0, 0, 1, -10}};
         for (long[] four : wrong) {
             EightLegs y = new EightLegs();
