@@ -1,3 +1,4 @@
+import java.lang.reflect.Array;
 import java.util.ArrayDeque;
 import java.util.ArrayList;
 import java.util.Arrays;
@@ -7,8 +8,7 @@ import java.util.List;
 /**
  * The document written down a second time, as naively as can be and in other ways than in EightLegs
  * (subsets tried one by one, texts split from outside, a real hierarchy of classes), to be compared
- * with it. It may use the whole library and may be slow; what a host refuses it learns from the
- * host itself, which EightLegs must not do.
+ * with it. It may use the whole library and may be slow.
  */
 final class Model {
     static final int BAD = -1, NOT = -2, FULL = -3, STATE = -5, VOID = -2000000000;
@@ -68,21 +68,18 @@ final class Model {
         if (shelves[shelf] != null && !(shelves[shelf] instanceof byte[])) {
             return -12;
         }
+        byte[] row = shelves[shelf] instanceof byte[] bytes ? bytes : new byte[0];
+        byte[] rest = i < row.length ? Arrays.copyOfRange(row, i, row.length) : new byte[0];
         int came = 0;
-        try {
-            byte[] row = (byte[]) shelves[shelf];
-            while (came < n && all.size() < 8) {
-                int at = Math.addExact(i, 4 * came);
-                int x = row[at], y = row[at + 1], tall = row[at + 2], quick = row[at + 3];
-                if (x < 0 || x > 15 || y < 0 || y > 15 || tall < 1 || tall > 9 || quick < -9 || quick > 9) {
-                    break;
-                }
-                swimmer(100 * y + x, tall);
-                all.get(all.size() - 1).quick = quick;
-                came++;
+        while (came < n && all.size() < 8 && 4 * came + 4 <= rest.length) {
+            int at = 4 * came;
+            int x = rest[at], y = rest[at + 1], tall = rest[at + 2], quick = rest[at + 3];
+            if (x < 0 || x > 15 || y < 0 || y > 15 || tall < 1 || tall > 9 || quick < -9 || quick > 9) {
+                break;
             }
-        } catch (RuntimeException missingOrEnded) {
-            return came;
+            swimmer(100 * y + x, tall);
+            all.get(all.size() - 1).quick = quick;
+            came++;
         }
         return came;
     }
@@ -1111,51 +1108,53 @@ final class Model {
         if (held == null) {
             return -11;
         }
-        try {
-            if (held instanceof byte[] row) {
-                row[i] = (byte) v;
-            } else if (held instanceof short[] row) {
-                row[i] = (short) v;
-            } else if (held instanceof int[] row) {
-                row[i] = (int) v;
-            } else if (held instanceof long[] row) {
-                row[i] = v;
-            } else {
-                ((boolean[]) held)[i] = v != 0;
-            }
-        } catch (ClassCastException other) {
+        if (held instanceof Kept) {
             return -12;
-        } catch (IndexOutOfBoundsException place) {
+        }
+        if (i < 0 || i >= Array.getLength(held)) {
             return -13;
+        }
+        if (held instanceof byte[] row) {
+            row[i] = (byte) v;
+        } else if (held instanceof short[] row) {
+            row[i] = (short) v;
+        } else if (held instanceof int[] row) {
+            row[i] = (int) v;
+        } else if (held instanceof long[] row) {
+            row[i] = v;
+        } else if (held instanceof boolean[] row) {
+            row[i] = v != 0;
         }
         return 1;
     }
 
     long element(int shelf, int i) {
         Object held = held(shelf);
-        if (held == null || held instanceof Kept || i < 0 || i >= java.lang.reflect.Array.getLength(held)) {
+        if (held == null || held instanceof Kept || i < 0 || i >= Array.getLength(held)) {
             return Long.MIN_VALUE;
         }
         if (held instanceof boolean[] row) {
             return row[i] ? 1 : 0;
         }
-        return java.lang.reflect.Array.getLong(held, i);
+        return Array.getLong(held, i);
     }
 
-    @SuppressWarnings("SuspiciousSystemArraycopy")
     int shift(int shelf, int i, int other, int j, int n) {
         if (shelf < 0 || shelf > 5 || other < 0 || other > 5) {
             return BAD;
         }
-        try {
-            System.arraycopy(shelves[shelf], i, shelves[other], j, n);
-        } catch (NullPointerException nothing) {
+        Object from = shelves[shelf], to = shelves[other];
+        if (from == null || to == null) {
             return -11;
-        } catch (ArrayStoreException unlike) {
+        }
+        if (from instanceof Kept || from.getClass() != to.getClass()) {
             return -12;
-        } catch (IndexOutOfBoundsException place) {
+        }
+        long most = Math.min((long) Array.getLength(from) - i, (long) Array.getLength(to) - j);
+        if (i < 0 || j < 0 || n < 0 || n > most) {
             return -13;
         }
+        System.arraycopy(from, i, to, j, n);
         return n;
     }
 
