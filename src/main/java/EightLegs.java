@@ -38,7 +38,7 @@ public final class EightLegs {
     }
 
     public int swimmers(int shelf, int i, int n) {
-        if (!Shelves.isShelf(shelf) || i < 0 || n < 1 || n > MOST_SWIMMERS) {
+        if (!Shelves.isShelf(shelf) || n < 1 || n > MOST_SWIMMERS) {
             return BAD;
         }
         int refusal = shelves.refusal(shelf, Shelves.BYTES);
@@ -560,6 +560,7 @@ public final class EightLegs {
         }
 
         private boolean joinFour(long[] row, int at) {
+            // a place below 0 is not there either: the row ends, and nobody comes
             if (at < 0 || at + 3 >= row.length) {
                 return false;
             }

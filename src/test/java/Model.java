@@ -62,14 +62,14 @@ final class Model {
     }
 
     int swimmers(int shelf, int i, int n) {
-        if (shelf < 0 || shelf > 5 || i < 0 || n < 1 || n > 8) {
+        if (shelf < 0 || shelf > 5 || n < 1 || n > 8) {
             return BAD;
         }
         if (shelves[shelf] != null && !(shelves[shelf] instanceof byte[])) {
             return -12;
         }
         byte[] row = shelves[shelf] instanceof byte[] bytes ? bytes : new byte[0];
-        byte[] rest = i < row.length ? Arrays.copyOfRange(row, i, row.length) : new byte[0];
+        byte[] rest = i >= 0 && i < row.length ? Arrays.copyOfRange(row, i, row.length) : new byte[0];
         int came = 0;
         while (came < n && all.size() < 8 && 4 * came + 4 <= rest.length) {
             int at = 4 * came;

@@ -9,6 +9,7 @@ public final class SwimmersTest {
         aNewObject();
         swimmer();
         swimmers();
+        swimmersFromPlacesThatAreNotThere();
         swimmersFromRowsThatLackOrEnd();
         mend();
         mendWrong();
@@ -92,7 +93,7 @@ public final class SwimmersTest {
         for (int shelf : shelves) {
             c.due("3 shelf " + shelf, x.swimmers(shelf, 1, 1), Check.BAD);
         }
-        c.due("3 place -1", x.swimmers(3, -1, 1), Check.BAD);
+        c.due("3 place -1", x.swimmers(3, -1, 1), 0);
         c.due("3 still three", x.count(0), 3);
         c.due("3 one of three, and she is wrong", x.swimmers(3, 0, 1), 0);
         c.due("3 n 8", x.swimmers(3, 1, 8), 3);
@@ -100,6 +101,51 @@ public final class SwimmersTest {
         c.due("3 until they are FULL", x.swimmers(3, 1, 8), 2);
         c.due("3 FULL", x.swimmers(3, 1, 1), 0);
         c.due("3 eight", x.count(0), 8);
+    }
+
+    private static void swimmersFromPlacesThatAreNotThere() {
+        int[] below = {-1, -3, -4, -8, -60, -61, Check.LOW, Check.LOW + 3};
+        int[] beyond = {8, 9, 12, 59, 60, 61, Check.HIGH - 3, Check.HIGH};
+        for (int[] places : new int[][] {below, beyond}) {
+            for (int i : places) {
+                for (int n : new int[] {1, 2, 8}) {
+                    c.due("3 nothing held, place " + i, new EightLegs().swimmers(0, i, n), 0);
+                    swimmersFromRowsAtNoPlace(i, n);
+                }
+                for (int n : new int[] {0, 9, -1, Check.LOW, Check.HIGH}) {
+                    c.due("3 BAD n, place " + i, new EightLegs().swimmers(0, i, n), Check.BAD);
+                }
+                c.due("3 BAD shelf, place " + i, new EightLegs().swimmers(6, i, 1), Check.BAD);
+                c.due("3 BAD shelf, place " + i, new EightLegs().swimmers(-1, i, 1), Check.BAD);
+            }
+        }
+    }
+
+    private static void swimmersFromRowsAtNoPlace(int i, int n) {
+        EightLegs x = new EightLegs();
+        Check.lay(x, 0, 0, 1, 1, 1, 1, 2, 2, 2, 2);
+        c.due("3 bytes, place " + i, x.swimmers(0, i, n), 0);
+        c.due("3 nobody came", x.count(0), 0);
+        x.row(1, 0, 0);
+        c.due("3 a row of none, place " + i, x.swimmers(1, i, n), 0);
+        x.row(2, 0, 60);
+        c.due("3 the longest row, not so, place " + i, x.swimmers(2, i, n), 0);
+        for (int sort = 1; sort <= 4; sort++) {
+            Check.lay(x, 3, sort, 1, 1, 1, 1, 2, 2, 2, 2);
+            c.due("3 sort " + sort + ", place " + i, x.swimmers(3, i, n), Check.OTHER_KIND);
+        }
+        x.body(0);
+        x.keep(4, 0);
+        c.due("3 a COUNT, place " + i, x.swimmers(4, i, n), Check.OTHER_KIND);
+        x.keep(4, -1);
+        c.due("3 nothing again, place " + i, x.swimmers(4, i, n), 0);
+        c.due("3 the row is still there", x.swimmers(0, 0, 2), 2);
+        while (x.swimmer(0, 5) != Check.FULL) {
+            c.due("3 more come", x.count(0) <= 8 ? 1 : 0, 1);
+        }
+        c.due("3 FULL, place " + i, x.swimmers(0, i, n), 0);
+        c.due("3 FULL, nothing held, place " + i, x.swimmers(5, i, n), 0);
+        c.due("3 FULL, another kind, place " + i, x.swimmers(3, i, n), Check.OTHER_KIND);
     }
 
     private static void swimmersFromRowsThatLackOrEnd() {
