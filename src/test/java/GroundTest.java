@@ -14,6 +14,7 @@ public final class GroundTest {
         starSize();
         onOneCell();
         mirror();
+        inTheCorners();
         c.end();
     }
 
@@ -179,5 +180,30 @@ public final class GroundTest {
         c.due("21 all have one", x.star(2), 1);
         x.mend(4, 0, 14);
         c.due("21 beside", x.star(2), 0);
+    }
+
+    /** Nobody stands at (0, 0) but who was told so, however many there are. */
+    private static void inTheCorners() {
+        for (int corner : new int[] {0, 15, 1500, 1515}) {
+            int across = corner - corner % 100 + 15 - corner % 100;
+            for (int many = 1; many <= 8; many++) {
+                EightLegs x = new EightLegs();
+                for (int one = 0; one < many - 1; one++) {
+                    x.swimmer(100 * one + 107, 5);
+                }
+                x.swimmer(corner, 5);
+                c.due("21 alone on her cell", x.star(1), 0);
+                c.due("21 nobody is across", x.star(2), 0);
+                x.mend(0, 0, corner % 100);
+                x.mend(0, 1, corner / 100);
+                c.due("21 two on it", x.star(1), many == 1 ? 0 : 1 + (1 << many - 1));
+            }
+            EightLegs y = new EightLegs();
+            y.swimmer(corner, 5);
+            y.swimmer(across, 5);
+            c.due("21 across", y.star(2), 1);
+            c.due("21 not on one cell", y.star(1), 0);
+            c.due("21 as wide as can be", y.star(0), 16);
+        }
     }
 }

@@ -172,8 +172,12 @@ public final class RipplesTest {
         c.due("25 any: the least", x.quicker(1, 1), -9);
     }
 
-    /** The draws once more, for two swimmers whose marks are how far they are apart. */
     private static int byHand(int seed, int n, int slips, int counts, boolean clean) {
+        return byHand(seed, n, slips, counts, clean, 0);
+    }
+
+    /** The draws once more, for two swimmers whose marks are how far they are apart; the first has QUICK. */
+    private static int byHand(int seed, int n, int slips, int counts, boolean clean, int quick) {
         int z = seed;
         int marks = 0;
         int without = 0;
@@ -183,7 +187,7 @@ public final class RipplesTest {
             int lost = 0;
             for (int k = 0; k < counts; k++) {
                 z = z * 1103515245 + 12345;
-                first += (z >>> 8) % 12 < slips ? 1 : 0;
+                first += quick + ((z >>> 8) % 12 < slips ? 1 : 0);
                 z = z * 1103515245 + 12345;
                 second += (z >>> 8) % 12 < slips ? 1 : 0;
                 lost += Math.abs(first - second);
@@ -213,6 +217,12 @@ public final class RipplesTest {
         x.mend(0, 4, 3);
         c.due("26 besides QUICK: 3 + 6 + .. + 21, twice", x.drawn(0, 9, 212, 0), 168);
         c.due("26 none without", x.drawn(0, 9, 212, 1), 0);
+        for (int quick = -9; quick <= 9; quick++) {
+            x.mend(0, 4, quick);
+            // with QUICK it shows who slips, and that a slip is ahead, not behind
+            c.due("26 QUICK " + quick, x.drawn(0, 41, 403, 0), byHand(41, 4, 3, 7, false, quick));
+            c.due("26 QUICK " + quick, x.drawn(0, 41, 409, 0), byHand(41, 4, 9, 7, false, quick));
+        }
         EightLegs none = new EightLegs();
         Check.routine(none, "00");
         c.due("26 nobody: none lost", none.drawn(0, 5, 712, 0), 0);

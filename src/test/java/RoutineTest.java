@@ -21,6 +21,7 @@ public final class RoutineTest {
         gaspsTenAtMost();
         looks();
         looksTenAtMost();
+        noCountsBehindOthers();
         tooLong();
         whose();
         first();
@@ -425,6 +426,27 @@ public final class RoutineTest {
         Check.routine(x, "4444440000000000");
         c.due("15 ten of sixteen", x.looks(0, -1), 10);
         c.due("15 the first of them", x.looks(0, 0), 6);
+    }
+
+    /** A routine without counts wants nothing, whatever the one ahead of it wanted. */
+    private static void noCountsBehindOthers() {
+        EightLegs x = Check.pool(2);
+        x.mend(0, 3, 1);
+        x.mend(0, 4, 9);
+        x.mend(0, 7, 9);
+        Check.routine(x, "1010110000");
+        c.due("14 one", x.gasps(0, -1), 1);
+        c.due("15 more than there are", x.looks(0, -1), Check.NOT);
+        Check.routine(x, "");
+        c.due("14 none of no counts", x.gasps(0, -1), 0);
+        c.due("14 nor the first", x.gasps(0, 0), Check.NOT);
+        c.due("15 none of no counts", x.looks(0, -1), 0);
+        c.due("15 nor the first", x.looks(0, 0), Check.NOT);
+        c.due("12 nobody's is gone", x.gone(0, -1), 0);
+        c.due("13 1 at least", x.least(0, 0), 1);
+        c.due("16 none lost", x.whose(0, 1), 0);
+        c.due("17 none lost", x.first(0, 1), 0);
+        c.due("18 none lost", x.slip(0, 0, 99), 0);
     }
 
     private static void tooLong() {
